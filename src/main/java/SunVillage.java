@@ -179,8 +179,8 @@ public final class SunVillage {
             return NONE;
         }
         book.workTo(quarter, dayOfLooks());
-        book.workAgain(quarter);
-        return house == NONE ? work.filledBy[i] : work.gave[i * MOST_HOUSES + house];
+        book.workAgain(quarter, i);
+        return house == NONE ? work.watchedFilled : work.watchedGave[house];
     }
 
     public int would(int house, int quarter) {
@@ -746,7 +746,6 @@ public final class SunVillage {
         private int quarter;
         private int pool;
         private int store;
-        private int givenFromStore;
         private final int[] want = new int[MOST_HOUSES];
         private final int[] line = new int[MOST_HOUSES];
         private final int[] hadThatDay = new int[MOST_HOUSES];
@@ -754,10 +753,13 @@ public final class SunVillage {
         private final int[] fromStore = new int[MOST_HOUSES];
         private final int[] chosen = new int[MOST_HOUSES];
         private int chosenSize;
+        private final boolean[] isLeast = new boolean[MOST_HOUSES];
         private final int[] weight = new int[MOST_HOUSES];
         private final int[] sides = new int[MOST_OPEN_SIDES];
-        private final int[] gave = new int[MOST_RULES * MOST_HOUSES];
-        private final int[] filledBy = new int[MOST_RULES];
+        /** The RULE whose doings are wanted by themselves, NONE for none. */
+        private int watched;
+        private int watchedFilled;
+        private final int[] watchedGave = new int[MOST_HOUSES];
         private final int[] sums = new int[SUMS];
 
         Work(Houses houses, int cap, int loss) {
@@ -766,12 +768,13 @@ public final class SunVillage {
             this.loss = loss;
         }
 
-        /** Behind this the prices are to be set, too. */
-        void begin(int number, int storeAtFirst) {
+        /** Behind this the prices are to be set, and the houses to be brought in. */
+        void begin(int number, int storeAtFirst, int ruleToWatch) {
             quarter = number;
+            watched = ruleToWatch;
+            watchedFilled = 0;
             pool = 0;
             store = storeAtFirst;
-            givenFromStore = 0;
             for (int k = 0; k < SUMS; k++) {
                 sums[k] = 0;
             }
@@ -786,14 +789,11 @@ public final class SunVillage {
             hadThatDay[house] = hadBefore;
             fromPool[house] = 0;
             fromStore[house] = 0;
+            watchedGave[house] = 0;
         }
 
         void apply(Text text, int i) {
             Rule rule = text.rules[i];
-            filledBy[i] = 0;
-            for (int h = 0; h < MOST_HOUSES; h++) {
-                gave[i * MOST_HOUSES + h] = 0;
-            }
             if (rule.whenTo > rule.whenFrom && value(text, rule.whenFrom, rule.whenTo) == 0) {
                 return;
             }
@@ -808,7 +808,9 @@ public final class SunVillage {
 
         /** All that comes behind the RULES. */
         void end() {
+            int givenFromStore = 0;
             for (int h = 0; h < houses.size; h++) {
+                givenFromStore += fromStore[h];
                 sums[HOUSES_BOUGHT] += room(h);
                 sums[DARK] += want[h] - room(h);
             }
@@ -885,11 +887,16 @@ public final class SunVillage {
             pool -= amount;
             store += amount;
             sums[FILLED] += amount;
-            filledBy[i] = amount;
+            if (i == watched) {
+                watchedFilled = amount;
+            }
         }
 
         private void give(Text text, int i, int amount) {
             Rule rule = text.rules[i];
+            if (amount == 0) {
+                return;
+            }
             choose(rule);
             long weights = weigh(rule.way);
             if (weights <= 0) {
@@ -916,23 +923,38 @@ public final class SunVillage {
         private void choose(Rule rule) {
             chosenSize = 0;
             for (int h = 0; h < houses.size; h++) {
-                boolean meant = rule.whom == Token.ALL
-                        || (rule.whom == Token.HOUSE && rule.number == h)
-                        || (rule.whom == Token.LEAST && housesAhead(h) < rule.number);
-                if (meant && room(h) > 0) {
+                if (room(h) > 0 && (rule.whom != Token.HOUSE || rule.number == h)) {
                     chosen[chosenSize] = h;
                     chosenSize++;
                 }
             }
+            if (rule.whom == Token.LEAST && rule.number < chosenSize) {
+                keepLeast(rule.number);
+            }
         }
 
-        /** How many that can have something come ahead of a house because they had less. */
-        private int housesAhead(int house) {
+        /** Takes those out of the chosen that had most. */
+        private void keepLeast(int many) {
+            for (int c = 0; c < chosenSize; c++) {
+                isLeast[c] = chosenAhead(c) < many;
+            }
+            int kept = 0;
+            for (int c = 0; c < chosenSize; c++) {
+                if (isLeast[c]) {
+                    chosen[kept] = chosen[c];
+                    kept++;
+                }
+            }
+            chosenSize = kept;
+        }
+
+        /** How many of the chosen come ahead of one of them because they had less. */
+        private int chosenAhead(int one) {
+            int had = hadThatDay[chosen[one]];
             int ahead = 0;
-            for (int h = 0; h < houses.size; h++) {
-                boolean less = hadThatDay[h] < hadThatDay[house]
-                        || (hadThatDay[h] == hadThatDay[house] && h < house);
-                if (less && room(h) > 0) {
+            for (int c = 0; c < chosenSize; c++) {
+                int other = hadThatDay[chosen[c]];
+                if (other < had || (other == had && c < one)) {
                     ahead++;
                 }
             }
@@ -958,14 +980,15 @@ public final class SunVillage {
             want[house] -= part;
             line[house] -= part;
             hadThatDay[house] += part;
-            gave[i * MOST_HOUSES + house] += part;
+            if (i == watched) {
+                watchedGave[house] += part;
+            }
             if (rule.source == Token.POOL) {
                 pool -= part;
                 fromPool[house] += part;
             } else {
                 store -= part;
                 fromStore[house] += part;
-                givenFromStore += part;
             }
         }
 
@@ -1046,7 +1069,7 @@ public final class SunVillage {
             }
             placeReadings(quarter);
             for (int q = worked; q <= quarter; q++) {
-                workAgain(q);
+                workAgain(q, NONE);
             }
             worked = quarter + 1;
         }
@@ -1072,9 +1095,9 @@ public final class SunVillage {
             }
         }
 
-        /** Works a quarter whose READINGS are placed, the ones ahead of it being worked. */
-        void workAgain(int quarter) {
-            work.begin(quarter, quarter == 0 ? 0 : sum(quarter - 1, STORE_BEHIND));
+        /** Works a quarter whose READINGS are placed, the ones ahead of it being worked, and watches a RULE of it. */
+        void workAgain(int quarter, int watched) {
+            work.begin(quarter, quarter == 0 ? 0 : sum(quarter - 1, STORE_BEHIND), watched);
             for (int k = POOL_PRICE; k <= SELL_PRICE; k++) {
                 work.sums[k] = quarter == 0 ? 0 : sum(quarter - 1, k);
             }
