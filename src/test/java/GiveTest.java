@@ -83,7 +83,7 @@ public final class GiveTest {
         given("20 by shares of 1, 3", village, 0, 5, 0, 15, 0);
     }
 
-    /** 1000000 * 5000 is beyond an int. */
+    /** 1000000 * 3000 is beyond an int. */
     private static void shareOfManyIsCut() {
         SunVillage village = new SunVillage(1000000, 0);
         for (int h = 0; h < 12; h++) {
@@ -91,14 +91,14 @@ public final class GiveTest {
         }
         for (int h = 0; h < 12; h++) {
             village.read(h, 0, 0, 5000);
-            village.read(h, 17, 5000, 0);
+            village.read(h, 17, 3000, 0);
         }
         rules(village, "fill all; when hour = 17 give all from store to all by wants; rest first;");
         Check.due("the STORE is full", village.quarter(16, 4), 1000000);
         for (int h = 0; h < 12; h++) {
-            Check.due("all that is wanted", village.had(h, 17, 4), 5000);
+            Check.due("all that is wanted", village.had(h, 17, 4), 3000);
         }
-        Check.due("the STORE behind", village.quarter(17, 4), 940000);
+        Check.due("the STORE behind", village.quarter(17, 4), 964000);
     }
 
     private static void amounts() {

@@ -17,6 +17,8 @@ public final class TextTest {
         sixTexts();
         others();
         tapeIsTaken();
+        faultsLeaveNothing();
+        behindLooks();
         Check.end("TextTest");
     }
 
@@ -228,6 +230,7 @@ public final class TextTest {
         Check.due("would(1, 0)", village.would(1, 0), 10);
         Check.due("other with a fault", Check.other(village, "give 20 from pool to all by heads;"), 1 + 16 * 34);
         Check.due("would(1, 0) as it was", village.would(1, 0), 10);
+        Check.due("would(1, 5) as it was", village.would(1, 5), 10);
         Check.due("another other", Check.other(village, "give 30 from pool to all by heads;rest first;"), 0);
         Check.due("would(1, 0) now", village.would(1, 0), 30);
         Check.due("one more other", Check.other(village, "rest first;"), 0);
@@ -243,5 +246,32 @@ public final class TextTest {
         Check.feed(village, "first;");
         Check.due("the other half alone", village.text(0), 1);
         Check.due("nothing", village.other(), 1);
+    }
+
+    /** Many texts with a FAULT, each full of PARTS, and then one without. */
+    private static void faultsLeaveNothing() {
+        SunVillage village = Check.village(1);
+        village.read(0, 0, 0, 100);
+        Check.text(village, 0, "fill 3; rest first;");
+        for (int i = 0; i < 5; i++) {
+            Check.due("fault", Check.text(village, 1, "fill 9; fill " + "1+".repeat(450) + ";"), 1 + 16 * 913);
+        }
+        Check.due("count(6)", village.count(6), 1);
+        Check.due("filled as before", village.quarter(1, 2), 3);
+        Check.due("text", Check.text(village, 2, "fill 4 + 5; fill 1 + 1; rest first;"), 0);
+        Check.due("filled", village.quarter(2, 2), 11);
+        Check.due("filled ahead", village.quarter(1, 2), 3);
+    }
+
+    /** A text that comes when quarters that it is for were looked at already. */
+    private static void behindLooks() {
+        SunVillage village = Check.village(1);
+        village.read(0, 0, 0, 100);
+        Check.due("filled without a text", village.quarter(9, 4), 0);
+        Check.text(village, 5, "fill 3; rest first;");
+        Check.due("filled with a text", village.quarter(9, 4), 15);
+        Check.text(village, 8, "fill 4; rest first;");
+        Check.due("filled with two texts", village.quarter(9, 4), 17);
+        Check.due("filled ahead of the second", village.quarter(7, 4), 9);
     }
 }
