@@ -6,6 +6,10 @@ public final class BillsTest {
         likewiseTownAndPot();
         wrongNumbers();
         noHouses();
+        fullVillage();
+        refusedChangesNothing();
+        allAtOnce();
+        daysThatAreYetToCome();
         Check.end("BillsTest");
     }
 
@@ -76,6 +80,89 @@ public final class BillsTest {
         for (int house = -2; house < 2; house++) {
             Check.due("bill(0, " + house + ")", village.bill(0, house), 0);
         }
+    }
+
+    /** Twelve houses and ten days: no bill stands in another's place. */
+    private static void fullVillage() {
+        SunVillage village = new SunVillage(0, 0);
+        for (int h = 0; h < 12; h++) {
+            village.house(1, 5000);
+        }
+        Check.text(village, 0, "price buy 2; when day = 9 price buy 3; rest first;");
+        for (int h = 0; h < 12; h++) {
+            village.read(h, 0, 1 + h, 0);
+        }
+        for (int day = 0; day < 10; day++) {
+            Check.due("bills()", village.bills(), day);
+        }
+        for (int day = 0; day < 10; day++) {
+            int price = day == 9 ? 3 : 2;
+            for (int h = 0; h < 12; h++) {
+                Check.due("bill(" + day + ", " + h + ")", village.bill(day, h), 24 * price * (1 + h));
+            }
+            Check.due("bill(" + day + ", -1)", village.bill(day, -1), -24 * price * 78);
+            Check.due("bill(" + day + ", -2)", village.bill(day, -2), 0);
+        }
+        int[][] wrong = {{10, 0}, {9, 12}, {9, -3}, {-1, 11}};
+        for (int[] w : wrong) {
+            Check.noSuch("bill(" + w[0] + ", " + w[1] + ")", () -> village.bill(w[0], w[1]));
+        }
+    }
+
+    /** "NONE: it is 10": the bills that are out stand, whatever comes to be known. */
+    private static void refusedChangesNothing() {
+        SunVillage village = Check.village(1);
+        Check.text(village, 0, "price buy 1; rest first;");
+        village.read(0, 0, 10, 0);
+        for (int day = 0; day < 10; day++) {
+            village.bills();
+        }
+        village.read(0, 0, 99, 0);
+        for (int i = 0; i < 3; i++) {
+            Check.due("bills() beyond the last day", village.bills(), SunVillage.NONE);
+        }
+        Check.due("count(4)", village.count(4), 10);
+        for (int day = 0; day < 10; day++) {
+            Check.due("bill(" + day + ", 0)", village.bill(day, 0), 240);
+        }
+        Check.noSuch("bill(10, 0)", () -> village.bill(10, 0));
+    }
+
+    /** The most that all quarters can come to, on the bill of the last day. */
+    private static void allAtOnce() {
+        SunVillage village = new SunVillage(0, 0);
+        for (int h = 0; h < 12; h++) {
+            village.house(1, 5000);
+        }
+        Check.text(village, 0, "price pool 100; price sell 99; rest first;");
+        for (int day = 0; day < 9; day++) {
+            village.bills();
+        }
+        for (int h = 0; h < 12; h++) {
+            village.read(h, 0, 0, 5000);
+        }
+        Check.due("bills()", village.bills(), 9);
+        Check.due("a house's", village.bill(9, 11), -240 * 500000);
+        Check.due("the town's", village.bill(9, -1), 240 * 60000 * 99);
+        Check.due("the POT's", village.bill(9, -2), 240 * 60000);
+        Check.due("the POT's of the day ahead", village.bill(8, -2), 0);
+    }
+
+    /** Bills are of the quarters' days, whichever day NOW is; one is out only when it went out. */
+    private static void daysThatAreYetToCome() {
+        SunVillage village = Check.village(1);
+        Check.text(village, 23, "price buy 1; rest first;");
+        village.read(0, 23, 5, 0);
+        village.read(0, 24, 700, 0);
+        village.days(100);
+        Check.noSuch("bill(0, 0) ahead of it", () -> village.bill(0, 0));
+        Check.due("bills()", village.bills(), 0);
+        Check.due("up to the end of its day", village.bill(0, 0), 5);
+        Check.noSuch("bill(1, 0) ahead of it", () -> village.bill(1, 0));
+        Check.noSuch("bill(1, -1) ahead of it", () -> village.bill(1, -1));
+        Check.noSuch("bill(1, -2) ahead of it", () -> village.bill(1, -2));
+        Check.due("bills()", village.bills(), 1);
+        Check.due("the next day", village.bill(1, 0), 24 * 700);
     }
 
     private static void noHouses() {

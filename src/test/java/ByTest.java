@@ -39,6 +39,43 @@ public final class ByTest {
         for (int i = 0; i < 3; i++) {
             Check.due("full: by(0, " + i + ", NONE)", full.by(0, i, NONE), filled[i]);
         }
+        lastRule();
+        belowNothing();
         Check.end("ByTest");
+    }
+
+    /** RULE 23 is the last that there can be; the rest is no RULE. */
+    private static void lastRule() {
+        SunVillage village = Check.village(1);
+        village.read(0, 0, 0, 5000);
+        StringBuilder rules = new StringBuilder();
+        for (int i = 1; i <= 24; i++) {
+            rules.append("fill ").append(i).append(';');
+        }
+        Check.due("24 rules", Check.text(village, 0, rules + "rest first;"), 0);
+        for (int i = 0; i < 24; i++) {
+            Check.due("by(0, " + i + ", NONE)", village.by(0, i, NONE), i + 1);
+            Check.due("by(0, " + i + ", 0)", village.by(0, i, 0), 0);
+        }
+        Check.due("by(0, 24, NONE)", village.by(0, 24, NONE), NONE);
+        Check.due("by(0, 24, 0)", village.by(0, 24, 0), NONE);
+        Check.text(village, 1, "rest first;");
+        Check.due("a text without rules", village.by(1, 0, 0), NONE);
+        Check.due("a text without rules, NONE", village.by(1, 0, NONE), NONE);
+        Check.due("its last quarter", village.by(239, 0, NONE), NONE);
+    }
+
+    /** What a RULE did not do is 0, not NONE: below 0, and where its E is 0. */
+    private static void belowNothing() {
+        SunVillage village = Check.village(1, 1);
+        village.read(0, 0, 0, 50);
+        village.read(1, 0, 50, 0);
+        Check.text(village, 0, "fill 0 - 9;give 0 - 9 from pool to all by heads;when 0 fill 9;"
+                + "when 0 give 9 from pool to all by heads;when 0 price buy 9;rest first;");
+        int[] ofNone = {0, NONE, 0, NONE, NONE};
+        for (int i = 0; i < 5; i++) {
+            Check.due("by(239, " + i + ", 1)", village.by(239, i, 1), 0);
+            Check.due("by(239, " + i + ", NONE)", village.by(239, i, NONE), ofNone[i]);
+        }
     }
 }

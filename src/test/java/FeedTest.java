@@ -4,6 +4,7 @@ public final class FeedTest {
         order();
         leftOut();
         full();
+        lastSign();
         Check.end("FeedTest");
     }
 
@@ -27,6 +28,16 @@ public final class FeedTest {
         village.feed(0x72ff65007374090aL, 0x6669727374200a3bL, 0);
         Check.due("rest, 10, first, 32, 10, semicolon", village.count(5), 13);
         Check.due("text", village.text(0), 0);
+    }
+
+    /** "what is beyond 1,200": the 1,200th sign is there, the one behind it is not, whatever is left out between. */
+    private static void lastSign() {
+        SunVillage village = new SunVillage(0, 0);
+        Check.due("1199 blanks", Check.feed(village, " ".repeat(1199)), 1199);
+        Check.due("none of these is a sign", village.feed(0, -1, 0x0102030405060708L), 1199);
+        Check.due("the last one, and one more", village.feed(0, 0x0900ff000000003fL, 0x2100000000000000L), 1200);
+        Check.due("its fault", village.text(0), 1 + 16 * 1199);
+        Check.due("count(5)", village.count(5), 0);
     }
 
     private static void full() {

@@ -4,17 +4,24 @@ public final class GiveTest {
         heads();
         wants();
         shares();
+        sharesOfTheEnds();
         shareOfManyIsCut();
         amounts();
+        asMuchAsTheSourceHas();
         sources();
         lines();
         leftAsManyAsHouses();
         restFirst();
         restMost();
         restTurn();
+        turnGoesByTheQuarterAndAllHouses();
+        nothingLeft();
         restOnlyToThoseWithRoom();
         least();
         leastByDays();
+        leastByRulesAlone();
+        twelveHouses();
+        nobody();
         oneHouse();
         conditions();
         wantOfAll();
@@ -83,6 +90,16 @@ public final class GiveTest {
         given("20 by shares of 1, 3", village, 0, 5, 0, 15, 0);
     }
 
+    private static void sharesOfTheEnds() {
+        int[][] due = {{1001, 1, 1000}, {1000, 1, 999}, {1, 1, 0}, {2002, 2, 2000}};
+        for (int[] d : due) {
+            SunVillage village = Check.village(1, 1000, 1);
+            readAll(village, 0, 5000, 3000, 3000);
+            rules(village, "give " + d[0] + " from pool to all by shares; rest first;");
+            given(d[0] + " by shares of 1, 1000", village, 0, d[1], d[2], 0);
+        }
+    }
+
     /** 1000000 * 3000 is beyond an int. */
     private static void shareOfManyIsCut() {
         SunVillage village = new SunVillage(1000000, 0);
@@ -110,6 +127,20 @@ public final class GiveTest {
         for (int i = 0; i < due.length; i++) {
             Check.due("by rule " + i + " house 0", village.by(0, i, 0), due[i][0]);
             Check.due("by rule " + i + " house 1", village.by(0, i, 1), due[i][1]);
+        }
+    }
+
+    /** "the source's at most (all: that)": one less, as much, one more. */
+    private static void asMuchAsTheSourceHas() {
+        String[] amounts = {"39", "40", "41", "all"};
+        for (int k = 0; k < amounts.length; k++) {
+            SunVillage village = wanting(40, 50, 50);
+            rules(village, "give " + amounts[k] + " from pool to all by heads; rest first;");
+            given(amounts[k] + " of a POOL of 40", village, 0, 20, k == 0 ? 19 : 20, 0);
+            village = wanting(40, 50, 50);
+            rules(village, "fill all; give " + amounts[k] + " from store to all by heads; rest first;");
+            given(amounts[k] + " of a STORE of 40", village, 0, 20, k == 0 ? 19 : 20, 0);
+            Check.due("what the STORE has left", village.quarter(0, 4), k == 0 ? 1 : 0);
         }
     }
 
@@ -173,6 +204,13 @@ public final class GiveTest {
         village = wanting(100, 9, 11, 9, 9);
         rules(village, "give 6 from pool to all by heads; rest most;");
         given("most, equal ones", village, 0, 2, 2, 1, 1, 0);
+        int[][] mixed = {{30, 10, 20, 40, 2, 1, 1, 2}, {40, 30, 20, 10, 2, 2, 1, 1}, {20, 40, 10, 40, 1, 2, 1, 2},
+            {40, 10, 30, 30, 2, 1, 2, 1}};
+        for (int[] m : mixed) {
+            village = wanting(100, m[0], m[1], m[2], m[3]);
+            rules(village, "give 6 from pool to all by heads; rest most;");
+            given("most, in any order", village, 0, m[4], m[5], m[6], m[7], 0);
+        }
         // House 1 wants most, whatever its line bears, and its line still bears one.
         village = new SunVillage(0, 0);
         village.house(1, 5000);
@@ -203,6 +241,35 @@ public final class GiveTest {
         int[][] two = {{2, 2, 1}, {1, 2, 2}, {2, 1, 2}, {2, 2, 1}};
         for (int q = 24; q < 36; q++) {
             given("turn of two", village, q, two[q % 4][0], two[q % 4][1], two[q % 4][2], 0);
+        }
+    }
+
+    /** Five houses, so that neither the hour nor those who want something tell the same turn. */
+    private static void turnGoesByTheQuarterAndAllHouses() {
+        SunVillage village = wanting(100, 50, 50, 50, 50);
+        rules(village, "give 1 from pool to all by heads; rest turn;");
+        int[] quarters = {0, 3, 4, 5, 23, 24, 26, 47, 48, 238, 239};
+        for (int q : quarters) {
+            int turn = q % 5 == 4 ? 0 : q % 5;
+            for (int h = 0; h < 4; h++) {
+                Check.due("turn in quarter " + q + ": house " + h, village.by(q, 0, h), h == turn ? 1 : 0);
+            }
+        }
+        // The first not below that number that still can have it: house 1 wants nothing.
+        village = wanting(100, 50, 0, 50, 1);
+        rules(village, "give 1 from pool to house 3 by heads; give 3 from pool to all by heads; rest turn;");
+        int[][] due = {{2, 0, 1}, {1, 0, 2}, {1, 0, 2}, {2, 0, 1}, {2, 0, 1}, {2, 0, 1}, {1, 0, 2}};
+        for (int q = 0; q < due.length; q++) {
+            given("turn of those that can", village, q, due[q][0], due[q][1], due[q][2], 1, 0);
+        }
+    }
+
+    private static void nothingLeft() {
+        String[] ways = {"first", "most", "turn"};
+        for (String how : ways) {
+            SunVillage village = wanting(100, 50, 50, 50);
+            rules(village, "give 12 from pool to all by heads; rest " + how + ";");
+            given("nothing left, " + how, village, 1, 4, 4, 4, 0);
         }
     }
 
@@ -267,6 +334,67 @@ public final class GiveTest {
         given("another day", village, 48, 1, 0, 0);
     }
 
+    /** "had least (by rules)": neither the OWN nor what was bought, but what came from the STORE as well. */
+    private static void leastByRulesAlone() {
+        SunVillage village = wanting(100, 50, 30);
+        village.read(0, 0, 50, 20);
+        rules(village, "when hour = 0 give 1 from pool to house 1 by heads;"
+                + "when hour = 1 give 4 from pool to least 1 by heads; rest first;");
+        Check.due("house 0 bought", village.had(0, 0, 5), 30);
+        given("house 0 had least by rules", village, 1, 4, 0);
+        village = wanting(100, 50, 50);
+        rules(village, "when hour = 0 fill 10; when hour = 0 give 2 from store to house 0 by heads;"
+                + "when hour = 0 give 1 from pool to house 1 by heads;"
+                + "give 4 from pool to least 1 by heads; rest first;");
+        given("in this quarter, too", village, 0, 2, 5);
+        given("house 0 had 2", village, 1, 4, 0);
+        given("house 1 had 5", village, 2, 0, 4);
+    }
+
+    /** A full village, all of whom want something at once. */
+    private static void twelveHouses() {
+        SunVillage village = new SunVillage(1000000, 0);
+        for (int h = 0; h < 12; h++) {
+            village.house(1, 5000);
+        }
+        for (int h = 0; h < 12; h++) {
+            village.read(h, 0, 0, 100);
+            village.read(h, 1, 10 + h, 0);
+        }
+        rules(village, "fill all; rest first;");
+        Check.text(village, 1, "give 24 from store to least 11 by heads; give 5 from store to least 12 by heads;"
+                + "give want from store to all by wants; rest most;");
+        int[][] due = {{2, 2, 2, 2, 2, 2, 2, 2, 2, 3, 3, 0}, {0, 0, 0, 0, 0, 0, 0, 1, 1, 1, 1, 1}};
+        for (int h = 0; h < 12; h++) {
+            Check.due("to 11 of 12: house " + h, village.by(1, 0, h), due[0][h]);
+            Check.due("to 12 of 12: house " + h, village.by(1, 1, h), due[1][h]);
+            Check.due("all they still want: house " + h, village.by(1, 2, h), 10 + h - due[0][h] - due[1][h]);
+        }
+        Check.due("the STORE behind", village.quarter(1, 4), 1200 - 186);
+        // As many as the houses are stay, one less is given.
+        Check.text(village, 2, "give 11 from store to all by heads; give 12 from store to least 1 by heads; rest turn;");
+        for (int h = 0; h < 12; h++) {
+            Check.due("11 of 12, by turn: house " + h, village.by(2, 0, h), h == 1 ? 0 : 1);
+            Check.due("the least: house " + h, village.by(2, 1, h), h == 0 ? 9 : 0);
+        }
+    }
+
+    /** A village without houses, and one where nobody wants anything: nothing is given. */
+    private static void nobody() {
+        String[] ways = {"first", "most", "turn"};
+        for (String how : ways) {
+            SunVillage village = new SunVillage(10, 0);
+            rules(village, "give all from pool to all by shares; give 5 from store to least 12 by heads;"
+                    + "fill want + 1; rest " + how + ";");
+            Check.due("filled of nothing", village.by(239, 2, SunVillage.NONE), 0);
+            Check.due("POOL of nobody", village.quarter(239, 0), 0);
+            village = wanting(100, 0, 0);
+            rules(village, "give all from pool to all by wants; give 5 from pool to least 1 by shares; rest " + how + ";");
+            given("nobody wants", village, 1, 0, 0, 0);
+            Check.due("the town bought", village.quarter(1, 3), 100);
+        }
+    }
+
     private static void oneHouse() {
         SunVillage village = wanting(100, 50, 50, 0);
         rules(village, "give 10 from pool to house 1 by shares; give 10 from pool to house 2 by wants;"
@@ -299,6 +427,16 @@ public final class GiveTest {
         fires("(1 < 2) + (2 < 3) = 2", 0, true);
         fires("5 - (1 < (2 = (3 - (2 - (1))))) = 5", 0, true);
         fires("999999 + 1 = 999998 + 2", 0, true);
+        fires("8 = 9-(7 = 8-(6 = 7-(5 = 6-(1 = 2-(1 < 4-2)))))", 0, true);
+        fires("8 = 9-(7 = 8-(6 = 7-(5 = 6-(1 = 2-(1 < 4-3)))))", 0, false);
+        fires("hour = 0", 23, false);
+        fires("hour = 0", 24, true);
+        fires("hour = 23", 239, true);
+        fires("day", 23, false);
+        fires("day", 24, true);
+        fires("day = 9", 239, true);
+        fires("day = 9", 215, false);
+        fires("day = 9", 216, true);
     }
 
     private static void fires(String condition, int quarter, boolean want) {

@@ -5,6 +5,8 @@ public final class HadTest {
         wrongNumbers();
         ownIsNotBorne();
         lineOfNothing();
+        lineThatJustBears();
+        roofThatJustServes();
         Check.end("HadTest");
     }
 
@@ -49,6 +51,38 @@ public final class HadTest {
         village.house(1, 10);
         village.read(0, 0, 100, 80);
         row(village, 0, 0, 100, 80, 80, 0, 0, 10, 10, 0, 0);
+    }
+
+    /** "buys from the town what its line still bears; the rest is DARK": one less, as much, one more. */
+    private static void lineThatJustBears() {
+        int[][] due = {{9, 9, 1}, {10, 10, 0}, {11, 10, 0}};
+        for (int[] d : due) {
+            SunVillage village = new SunVillage(0, 0);
+            village.house(1, d[0]);
+            village.read(0, 0, 10, 0);
+            row(village, 0, 0, 10, 0, 0, 0, 0, d[1], d[2], 0, 0);
+        }
+        // What it had by rules is borne by the same line, from POOL and STORE alike.
+        SunVillage village = new SunVillage(100, 0);
+        village.house(1, 10);
+        village.house(1, 0);
+        Check.text(village, 0, "fill 5;give 5 from store to all by heads;give hour + 4 from pool to all by heads;rest first;");
+        village.read(0, 0, 20, 0);
+        village.read(1, 0, 0, 50);
+        row(village, 0, 0, 20, 0, 0, 4, 5, 1, 10, 0, 0);
+        row(village, 0, 1, 20, 0, 0, 5, 5, 0, 10, 1, 0);
+        row(village, 0, 2, 20, 0, 0, 5, 5, 0, 10, 1, 0);
+    }
+
+    /** "the lesser of WANTS, GIVES is its OWN; what is left of it is its want, its gift". */
+    private static void roofThatJustServes() {
+        int[][] due = {{10, 9, 9, 1, 0}, {10, 10, 10, 0, 0}, {10, 11, 10, 0, 1}, {0, 0, 0, 0, 0}, {5000, 5000, 5000, 0, 0}};
+        for (int[] d : due) {
+            SunVillage village = Check.village(1);
+            village.read(0, 0, d[0], d[1]);
+            row(village, 0, 0, d[0], d[1], d[2], 0, 0, d[3], 0, 0, 0);
+            Check.due("POOL of " + d[0] + ", " + d[1], village.quarter(0, 0), d[4]);
+        }
     }
 
     private static void lineOfNothing() {

@@ -6,6 +6,7 @@ public final class HouseTest {
         numbers();
         wrongNumbers();
         closed();
+        openStill();
         Check.end("HouseTest");
     }
 
@@ -27,6 +28,33 @@ public final class HouseTest {
         }
         Check.due("house(1, 0)", village.house(1, 0), 0);
         Check.due("house(1000, 5000)", village.house(1000, 5000), 1);
+    }
+
+    /** "a READING or a text (the OTHER, too) is there": nothing else closes the village. */
+    private static void openStill() {
+        SunVillage village = new SunVillage(0, 0);
+        Check.due("the first", village.house(1, 1), 0);
+        Check.feed(village, "rest first;");
+        Check.due("behind signs on the TAPE", village.house(1, 1), 1);
+        village.text(-1);
+        Check.due("behind a text for no quarter", village.house(1, 1), 2);
+        village.days(100);
+        village.known(50);
+        Check.due("behind days", village.house(1, 1), 3);
+        village.bills();
+        Check.due("behind bills", village.house(1, 1), 4);
+        village.had(4, 239, 8);
+        village.quarter(239, 4);
+        Check.due("behind looks", village.house(1, 1), 5);
+        village.house(0, 0);
+        Check.due("behind a refused house", village.house(1, 1), 6);
+        Check.due("count(0)", village.count(0), 7);
+        // Of those that came behind the looks all is as it should be.
+        Check.due("WANTS of the last", village.had(6, 239, 0), 0);
+        Check.due("DOUBT of the last", village.had(6, 0, 7), 1);
+        village.known(NONE);
+        Check.due("a reading of the last", village.read(6, 0, 3, 0), true);
+        Check.due("its line bears", village.had(6, 239, 5), 1);
     }
 
     private static void closed() {

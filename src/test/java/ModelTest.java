@@ -3,13 +3,16 @@ import java.util.Random;
 
 /** All promises at once: long runs of calls by chance (the same ones each time), each answer against the Model's. */
 public final class ModelTest {
-    private static final int RUNS = 120;
+    private static final int RUNS = 240;
+    /** What an object answers behind its 512th call is free. */
+    private static final int MOST_CALLS = 512;
     private static final int NO_SUCH = 987654321;
 
     private final Random chance;
     private final SunVillage village;
     private final Model model;
     private final boolean sunny;
+    private int calls;
 
     private ModelTest(int run) {
         chance = new Random(run);
@@ -39,17 +42,24 @@ public final class ModelTest {
             int share = 1 + below(run % 2 == 0 ? 5 : 1000);
             int bears = below(3) == 0 ? below(60) : below(5001);
             Check.due(run + ": house", village.house(share, bears), model.house(share, bears));
+            calls++;
         }
-        for (int i = 0; i < 300; i++) {
-            step(run + ": call " + i);
+        // A long text takes some hundred calls to feed.
+        while (calls < MOST_CALLS - 101) {
+            step(run + ": call " + calls);
         }
-        for (int i = 0; i < 100; i++) {
-            look(run + ": last look " + i);
+        while (calls < MOST_CALLS) {
+            look(run + ": last look " + calls);
         }
     }
 
     private void step(String name) {
         int kind = below(100);
+        if (kind >= 56) {
+            look(name);
+            return;
+        }
+        calls++;
         if (kind < 30) {
             int house = below(13) - (below(20) == 0 ? 1 : 0);
             int quarter = below(20) == 0 ? below(260) - 10 : below(60);
@@ -72,10 +82,8 @@ public final class ModelTest {
             Check.due(name + " known", village.known(day), model.known(day));
         } else if (kind < 55) {
             Check.due(name + " bills", village.bills(), model.bills());
-        } else if (kind < 56) {
-            Check.due(name + " house", village.house(1, 1), model.house(1, 1));
         } else {
-            look(name);
+            Check.due(name + " house", village.house(1, 1), model.house(1, 1));
         }
     }
 
@@ -103,6 +111,7 @@ public final class ModelTest {
         int quarter = below(15) == 0 ? below(250) - 5 : below(70);
         int house = below(Math.max(1, model.houses.size()) + 2) - 2 + below(2);
         int what = below(16) - 1;
+        calls++;
         switch (below(7)) {
             case 0:
             case 1:
@@ -143,6 +152,7 @@ public final class ModelTest {
             long b = Check.eight(signs, i + 8);
             long c = Check.eight(signs, i + 16);
             Check.due(name + " feed", village.feed(a, b, c), model.feed(a, b, c));
+            calls++;
         }
     }
 

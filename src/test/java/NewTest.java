@@ -24,6 +24,7 @@ public final class NewTest {
         lossIs(-1, 0);
         lossIs(Integer.MIN_VALUE, 0);
         lossIs(Integer.MAX_VALUE, 0);
+        bothWrong();
         Check.end("NewTest");
     }
 
@@ -38,6 +39,19 @@ public final class NewTest {
             village.read(h, 0, 0, 5000);
         }
         Check.due("cap " + cap + ": quarter(17, 4)", village.quarter(17, 4), want);
+    }
+
+    /** A wrong CAP leaves the LOSS alone, and the other way round. */
+    private static void bothWrong() {
+        int[][] due = {{-1, 500, 1000, 500}, {2000, 501, 2000, 0}, {1000001, -1, 1000, 0}};
+        for (int[] d : due) {
+            SunVillage village = new SunVillage(d[0], d[1]);
+            village.house(1, 0);
+            Check.text(village, 0, "fill all ; rest first ;");
+            village.read(0, 0, 0, 5000);
+            Check.due("SunVillage(" + d[0] + ", " + d[1] + "): filled", village.quarter(0, 2), d[2]);
+            Check.due("SunVillage(" + d[0] + ", " + d[1] + "): lost", village.quarter(0, 5), d[3]);
+        }
     }
 
     private static void lossIs(int loss, int want) {

@@ -8,14 +8,21 @@ public final class TextTest {
         good();
         ends();
         tokens();
+        everySign();
+        longWords();
+        blanks();
+        asManyTokensAsSigns();
         numbers();
         words();
         expressions();
         nested();
         manyRules();
         quarters();
+        inForce();
         sixTexts();
+        refusedChangesNothing();
         others();
+        otherWithAFaultAtFirst();
         tapeIsTaken();
         faultsLeaveNothing();
         behindLooks();
@@ -83,6 +90,59 @@ public final class TextTest {
         marked("fill |*1;rest first;", CANT_STAND);
         marked("fill 1|.5;rest first;", CANT_STAND);
         marked("fill 1 |> 2;rest first;", CANT_STAND);
+    }
+
+    /** "All else .. is none": each sign that can be on the TAPE, right behind a WORD and right behind a NUMBER. */
+    private static void everySign() {
+        for (char sign = 33; sign < 127; sign++) {
+            boolean letter = sign >= 'a' && sign <= 'z';
+            boolean digit = sign >= '0' && sign <= '9';
+            // A letter makes the WORD longer, all else ends it.
+            fault("rest" + sign + " first;", 1 + 16 * (letter ? 0 : 4));
+            // A digit makes the NUMBER longer; behind these the semicolon is what can't stand there.
+            boolean goesOn = "+-<=;".indexOf(sign) >= 0;
+            fault("fill 1" + sign + ";rest first;", digit ? 0 : 1 + 16 * (goesOn ? 7 : 6));
+        }
+    }
+
+    /** "8 at most", "1 to 6 digits": none at its first sign, whatever it begins with. */
+    private static void longWords() {
+        marked("|abcdefgh first;", CANT_STAND);
+        marked("|restrest first;", CANT_STAND);
+        marked("|restrestr first;", CANT_STAND);
+        marked("rest |firstfir;", CANT_STAND);
+        marked("rest |firstfirs;", CANT_STAND);
+        marked("fill |" + "a".repeat(1100), CANT_STAND);
+        marked("fill |" + "1".repeat(1100), CANT_STAND);
+        marked("fill |1234567fill;", CANT_STAND);
+        marked("fill 123456|fill;", CANT_STAND);
+        fault("give 123456from pool to least 000012by heads;rest first;", 0);
+        marked("give 1 from pool to least |0000012 by heads;rest first;", CANT_STAND);
+        marked("price buy |0000100;rest first;", CANT_STAND);
+        fault("price buy 000100;rest first;", 0);
+    }
+
+    /** "blanks (10, 32) between where one likes", and none within a token. */
+    private static void blanks() {
+        String[] words = {"when", "(", "hour", "<", "5", ")", "=", "1", "give", "3", "from", "pool", "to", "house", "1",
+            "by", "heads", ";", "rest", "turn", ";"};
+        fault(String.join(" ", words), 0);
+        fault(String.join("\n", words), 0);
+        fault("\n " + String.join(" \n \n", words) + "\n ", 0);
+        fault("when(hour<5)=1give 3from pool to house 1by heads;rest turn;", 0);
+        marked("|re st first;", CANT_STAND);
+        marked("|re\nst first;", CANT_STAND);
+        marked("fill 1 |2;rest first;", CANT_STAND);
+        marked("fill 1\n|2;rest first;", CANT_STAND);
+    }
+
+    /** As many tokens as the TAPE can have, and as many NUMBERS. */
+    private static void asManyTokensAsSigns() {
+        marked("|" + ";".repeat(1200), CANT_STAND);
+        marked("fill |" + "+".repeat(1195), CANT_STAND);
+        marked("fill 1|" + "(".repeat(1194), CANT_STAND);
+        marked("rest first;|" + "1a".repeat(594) + "1", CANT_STAND);
+        marked("fill " + "1-".repeat(597) + "1|", CANT_STAND);
     }
 
     private static void numbers() {
@@ -210,6 +270,21 @@ public final class TextTest {
         Check.due("count(3)", village.count(3), 3);
     }
 
+    /** "is in force from a quarter on, up to that from which the next one known is; ahead of the first nothing". */
+    private static void inForce() {
+        SunVillage village = Check.village(1);
+        village.read(0, 0, 0, 100);
+        Check.text(village, 3, "fill 1;rest first;");
+        Check.text(village, 7, "fill 2;rest first;");
+        Check.text(village, 8, "fill 3;rest first;");
+        Check.text(village, 239, "fill 4;rest first;");
+        int[][] due = {{0, -1}, {2, -1}, {3, 1}, {6, 1}, {7, 2}, {8, 3}, {24, 3}, {238, 3}, {239, 4}};
+        for (int[] d : due) {
+            Check.due("by(" + d[0] + ", 0, NONE)", village.by(d[0], 0, SunVillage.NONE), d[1]);
+            Check.due("quarter(" + d[0] + ", 2)", village.quarter(d[0], 2), Math.max(0, d[1]));
+        }
+    }
+
     private static void sixTexts() {
         SunVillage village = Check.village(1);
         for (int i = 0; i < 6; i++) {
@@ -220,6 +295,34 @@ public final class TextTest {
         Check.due("signs behind it", village.count(5), 0);
         Check.due("count(3)", village.count(3), 6);
         Check.due("an other text", Check.other(village, "rest first;"), 0);
+    }
+
+    /** -1 for a quarter that is not above the latest, or for a 7th text: all stays as it was. */
+    private static void refusedChangesNothing() {
+        SunVillage village = Check.village(1);
+        village.read(0, 0, 0, 100);
+        for (int i = 0; i < 6; i++) {
+            Check.text(village, 10 * i, "fill 1;price buy 2;rest first;");
+            Check.due("not above the latest", Check.text(village, 10 * i, "fill 5;rest first;"), -1);
+            Check.due("not above the latest", Check.text(village, 0, "fill 5;rest first;"), -1);
+            Check.due("count(3)", village.count(3), i + 1);
+        }
+        Check.due("a 7th", Check.text(village, 239, "fill 5;rest first;"), -1);
+        Check.due("a 7th with a fault", Check.text(village, 239, "fill ;"), -1);
+        Check.due("signs behind it", village.count(5), 0);
+        Check.due("count(6)", village.count(6), 2);
+        for (int q = 0; q < 240; q++) {
+            Check.due("filled in quarter " + q, village.quarter(q, 2), 1);
+        }
+    }
+
+    private static void otherWithAFaultAtFirst() {
+        SunVillage village = Check.village(1);
+        Check.due("other with a fault", Check.other(village, "fill all;"), 1 + 16 * 9);
+        Check.due("count(7)", village.count(7), 0);
+        Check.due("would(0, 0)", village.would(0, 0), SunVillage.NONE);
+        Check.due("an other text", Check.other(village, "fill all;rest first;"), 0);
+        Check.due("would(0, 0) now", village.would(0, 0), 0);
     }
 
     private static void others() {

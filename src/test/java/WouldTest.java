@@ -33,6 +33,36 @@ public final class WouldTest {
         for (int[] w : wrong) {
             Check.due("would(" + w[0] + ", " + w[1] + ")", village.would(w[0], w[1]), NONE);
         }
+        alone();
+        nobody();
         Check.end("WouldTest");
+    }
+
+    /** "in force from quarter 0 on, alone": with a STORE of its own, that has the same CAP and LOSS. */
+    private static void alone() {
+        SunVillage village = new SunVillage(50, 100);
+        village.house(1, 5000);
+        village.house(1, 5000);
+        village.read(0, 0, 0, 70);
+        village.read(1, 1, 100, 0);
+        Check.text(village, 0, "fill 7; rest first;");
+        Check.text(village, 1, "give all from store to all by heads; rest first;");
+        Check.due("had from the STORE", village.had(1, 1, 4), 7);
+        Check.other(village, "when hour = 0 fill all; when hour = 1 give all from store to all by heads;"
+                + "when day = 9 give hour from pool to all by heads; rest first;");
+        Check.due("its STORE held 50 and lost 5", village.would(1, 1), 45);
+        Check.due("in quarter 0", village.would(1, 0), 0);
+        Check.due("in the last quarter", village.would(1, 239), 23);
+        Check.due("had as before", village.had(1, 1, 4), 7);
+        Check.due("a text that comes later", Check.text(village, 2, "give 9 from pool to all by heads; rest first;"), 0);
+        Check.due("is nothing to it", village.would(1, 2), 0);
+        Check.due("but is in force", village.had(1, 2, 3), 9);
+    }
+
+    private static void nobody() {
+        SunVillage village = new SunVillage(50, 100);
+        Check.other(village, "fill all; rest first;");
+        Check.due("would(0, 0) of nobody", village.would(0, 0), NONE);
+        Check.due("would(-1, 0) of nobody", village.would(-1, 0), NONE);
     }
 }
