@@ -14,6 +14,7 @@ public final class TextTest {
         asManyTokensAsSigns();
         numbers();
         words();
+        everyTokenEverywhere();
         expressions();
         nested();
         manyRules();
@@ -197,6 +198,58 @@ public final class TextTest {
         marked("rest |all;", CANT_STAND);
     }
 
+    /** "or can't stand there": behind each beginning of a text each token, of which only some can stand there. */
+    private static void everyTokenEverywhere() {
+        String parts = " 1 ( hour day pool store want ";
+        String joints = " + - < = ";
+        canStand("", " when give fill price rest ");
+        canStand("when ", parts);
+        canStand("when 1 ", joints + "give fill price ");
+        canStand("fill ", parts + "all ");
+        canStand("fill all ", " ; ");
+        canStand("fill 1 ", joints + "; ");
+        canStand("fill 1 + ", parts);
+        canStand("fill 1 - ", parts);
+        canStand("fill 1 < ", parts);
+        canStand("fill 1 = ", parts);
+        canStand("fill 1 < 2 ", " + - ; ");
+        canStand("fill ( ", parts);
+        canStand("fill ( 1 ", joints + ") ");
+        canStand("fill ( 1 = 2 ", " + - ) ");
+        canStand("fill 1; ", " when give fill price rest ");
+        canStand("price ", " pool store buy sell ");
+        canStand("price buy ", " 1 ");
+        canStand("price buy 1 ", " ; ");
+        canStand("give ", parts + "all ");
+        canStand("give all ", " from ");
+        canStand("give 1 ", joints + "from ");
+        canStand("give 1 from ", " pool store ");
+        canStand("give 1 from pool ", " to ");
+        canStand("give 1 from pool to ", " all house least ");
+        canStand("give 1 from pool to house ", " 1 ");
+        canStand("give 1 from pool to least ", " 1 ");
+        canStand("give 1 from pool to all ", " by ");
+        canStand("give 1 from pool to house 1 ", " by ");
+        canStand("give 1 from pool to least 1 ", " by ");
+        canStand("give 1 from pool to all by ", " heads wants shares ");
+        canStand("give 1 from pool to all by heads ", " ; ");
+        canStand("rest ", " first most turn ");
+        canStand("rest first ", " ; ");
+        canStand("rest first ; ", " ");
+    }
+
+    private static void canStand(String ahead, String those) {
+        String[] all = {"1", "(", ")", "<", "=", "+", "-", ";", "when", "give", "fill", "price", "rest", "from", "to", "by",
+            "all", "house", "least", "heads", "wants", "shares", "pool", "store", "buy", "sell", "hour", "day", "want",
+            "first", "most", "turn", "x", "A"};
+        for (String token : all) {
+            // What can stand there leaves the fault to the ? behind it.
+            boolean can = those.contains(" " + token + " ");
+            int place = ahead.length() + (can ? token.length() + 1 : 0);
+            fault(ahead + token + " ?", CANT_STAND + 16 * place);
+        }
+    }
+
     private static void expressions() {
         marked("fill 1 < 2 |< 3;rest first;", CANT_STAND);
         marked("fill 1 = 2 |< 3;rest first;", CANT_STAND);
@@ -226,6 +279,8 @@ public final class TextTest {
         marked("fill ((((((|);rest first;", CANT_STAND);
         marked("fill ((((((|all;rest first;", CANT_STAND);
         marked("fill ((((((|1000000;rest first;", CANT_STAND);
+        marked("fill ((((((|", CANT_STAND);
+        marked("fill ((((((|?1", CANT_STAND);
         marked("when ((((((|1)))))) fill all;rest first;", TOO_MANY);
         fault("when (((((1))))) fill (((((1)))));rest first;", 0);
     }
