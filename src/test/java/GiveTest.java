@@ -16,6 +16,7 @@ public final class GiveTest {
         restTurn();
         turnGoesByTheQuarterAndAllHouses();
         nothingLeft();
+        oneAtMost();
         restOnlyToThoseWithRoom();
         least();
         leastByDays();
@@ -270,6 +271,22 @@ public final class GiveTest {
             SunVillage village = wanting(100, 50, 50, 50);
             rules(village, "give 12 from pool to all by heads; rest " + how + ";");
             given("nothing left, " + how, village, 1, 4, 4, 4, 0);
+        }
+    }
+
+    /** "each one at most": two are left, and but one house can have any of them, wherever it stands. */
+    private static void oneAtMost() {
+        int[][] wants = {{50, 3, 3}, {3, 50, 3}, {3, 3, 50}};
+        String[] ways = {"first", "most", "turn"};
+        for (int[] w : wants) {
+            for (String how : ways) {
+                SunVillage village = wanting(100, w);
+                rules(village, "give 12 from pool to all by heads; rest " + how + ";");
+                for (int q = 0; q < 8; q++) {
+                    given("one at most, " + how, village, q, Math.min(5, w[0]), Math.min(5, w[1]), Math.min(5, w[2]), 0);
+                    Check.due("one stays", village.quarter(q, 3), 89);
+                }
+            }
         }
     }
 
